@@ -185,6 +185,7 @@ public final class PromiseTest {
         faultDue(0, "gh20", 3);
         faultDue(0, "ga4", 2);
         faultDue(0, "gf10", 3);
+        faultDue(0, "gs10", 3);
         faultDue(0, "gs99", 3);
         faultDue(0, "mw10", 3);
         faultDue(0, "mn61;", 3);
@@ -251,6 +252,11 @@ public final class PromiseTest {
         faultDue(1, "y:[[[[[[[1", 8);
         faultDue(1, "y:(((((((f", 8);
         faultDue(1, "y:(!(!(![f", 8);
+        faultDue(1, "y:f=[[[[[[1]]]]]]&[[[[[[1]]]]]]=1|[[[[[[1]]]]]]=1?1", NONE);
+        faultDue(1, "y:f=[[[[[[[1", 10);
+        faultDue(1, "y:f=1&!!!!!!!f", 12);
+        faultDue(1, "y:f=1|!!!!!!!f", 12);
+        faultDue(1, "y:f=1?[[[[[[[1", 12);
         faultDue(1, "y:!!!!!!f=1&!!!!!!!f", 18);
         faultDue(1, "y:!!!!!!f=1&!!!!!!s=1?1", NONE);
     }
@@ -414,6 +420,10 @@ public final class PromiseTest {
         worthDue("y:(f=12|s=4)&s=3?3;y:4", 4);
         worthDue("y:!(f=1|s=3)?3;y:4", 3);
         worthDue("y:!f=1&s=3?3;y:4", 4);
+        worthDue("y:!(f=12&s=4)?3;y:4", 4);
+        worthDue("y:!(f=12|s=4)?3;y:4", 4);
+        worthDue("y:!f<13?3;y:4", 4);
+        worthDue("y:!f>11?3;y:4", 4);
         worthDue("y : f * 2 = 24 ? 3 ; y : 4", 3);
         due("rises of two after the same", with(FOUR, "y:a*5+1").rises(0, 2), 6);
         GloveHouses x = with(FOUR, "y:d+w*2");
@@ -552,8 +562,8 @@ public final class PromiseTest {
         due("above 999", x.give(1), NONE);
         statusDue(x, 0, 5, 0, 0, 0);
         x.undo();
-        x.give(49);
-        due("998", x.rule(1), 998);
+        x.give(48);
+        due("give(1)", x.give(1), 998);
         x.days(1);
         due("999 at most by a day", x.rule(1), 999);
     }
@@ -745,6 +755,11 @@ public final class PromiseTest {
         due("log(-1, 0)", x.log(-1, 0), NONE);
         due("log(0, 3)", x.log(0, 3), NONE);
         due("log(0, -1)", x.log(0, -1), NONE);
+        GloveHouses two = with("g;g;gh1;gh1;m;mn3;mn3;mn3", "y:3");
+        two.meets(0, 3);
+        two.meets(1, 2);
+        two.days(1);
+        due("two signed that day", two.log(0, 1), 6);
         x.days(58);
         due("sixty", x.count(10), 60);
         due("the oldest", x.log(59, 2), 5);
@@ -881,8 +896,14 @@ public final class PromiseTest {
         GloveHouses z = with("sk0;g;gh1", "y:1");
         due("coins or not", z.allKnow(), 1);
         z = with("g;gh1;gh1", "y:9-w");
-        for (int i = 0; i < 17; i++) z.days(i < 16 ? 60 : 39);
+        for (int i = 0; i < 17; i++) z.days(i < 16 ? 60 : 38);
+        z.meets(0, 2);
+        due("ahead of the last", z.allKnow(), NONE);
+        z.days(1);
         due("no day goes by behind the last", z.allKnow(), NONE);
+        z = with("g;gh1", "y:1");
+        for (int i = 0; i < 17; i++) z.days(i < 16 ? 60 : 39);
+        due("the last itself is one", z.allKnow(), 1);
     }
 
     private static void seenFitsAsk() {
@@ -1085,6 +1106,24 @@ public final class PromiseTest {
         due("weighing nothing", with("g;gh1;mw0").most(6), 0);
         due("freest, of several the lowest", with("gf1;gf7;gh1f7").most(4), 1);
         due("coldest", coldest(), 13);
+        x = with("sk99;g;g;g;gh1;gh1;gh1;mn6;mn5", "y:5");
+        x.meets(2, 4);
+        x.meets(1, 5);
+        x.days(1);
+        x.meets(5, 2);
+        x.meets(1, 4);
+        x.tear(1);
+        due("of several warmest the least", x.most(2), 14);
+        due("due for one of two", x.most(8), 2);
+        x.days(1);
+        x.meets(1, 4);
+        due("warmest", x.most(2), 14);
+        x.days(1);
+        x.meets(2, 5);
+        x.days(1);
+        x.meets(2, 5);
+        due("warmest", x.most(2), 25);
+        due("coldest", x.most(3), 3);
         promise = 37;
         x = with("ga1;ga0;gh1a1;gh1;gh1a1;ga1");
         due("allies(0)", x.allies(0), 20);
@@ -1163,6 +1202,17 @@ public final class PromiseTest {
         y.days(5);
         y.back();
         for (int i = 0; i < 5; i++) due("the log of the image", y.log(i, 2), 5 - i);
+        y.days(60);
+        for (int i = 0; i < 59; i++) {
+            y.meets(0, 1);
+            y.days(1);
+        }
+        y.image();
+        y.days(60);
+        y.days(60);
+        y.back();
+        for (int i = 0; i < 59; i++) due("the log of the image", y.log(i, 2), 59 - i);
+        due("the log of the image", y.log(59, 2), 0);
     }
 
     private static void counts() {

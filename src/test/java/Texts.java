@@ -45,7 +45,7 @@ final class Texts {
         int gloves = 2 + r.nextInt(5);
         for (int i = 0; i < gloves; i++) clauses.add("g" + items(r, "hfsa", 1, 9, 9, r.nextInt(4)));
         int matters = r.nextInt(6);
-        for (int i = 0; i < matters; i++) clauses.add("m" + items(r, "wn", 9, r.nextInt(3) == 0 ? 60 : 20));
+        for (int i = 0; i < matters; i++) clauses.add("m" + items(r, "wn", 9, new int[] {60, 20, 5}[r.nextInt(3)]));
         Collections.shuffle(clauses, r);
         return String.join(gap(r) + ";" + gap(r), clauses);
     }
