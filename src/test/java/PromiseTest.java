@@ -1,18 +1,11 @@
-import java.util.NoSuchElementException;
-
 /** Each promise of the document by its number: ordinary inputs, the edges it names, wrong inputs. */
-public final class PromiseTest {
+public final class PromiseTest extends Check {
     /*
      * GLOVES 0 and 1 of HOUSE 0, 2 and 3 of HOUSE 1. Without a LAW it RISES, at first:
      * 0-2: 14/2 + 2 - 3/3 - 0/4 = 8;  0-3: 12/2 - 1 - 4/4 = 4;
      * 1-2: 8/2 - 1 - 8/4 = 1;         1-3: 6/2 + 2 - 1 - 12/4 = 1.
      */
     private static final String FOUR = "sp3k50;gf8s0a1;gf2s8;gh1f6s0a1;gh1f4s4a0;mw5n6;mw2n20";
-    private static final int NONE = -1;
-    private static final int HIDDEN = -1000000;
-    private static int wrong = 0;
-    private static int right = 0;
-    private static int promise = 0;
 
     public static void main(String[] args) {
         newObject();
@@ -41,66 +34,11 @@ public final class PromiseTest {
         sharesAndMost();
         images();
         counts();
-        System.out.println(right + " answers as due, " + wrong + " not");
-        if (wrong != 0) System.exit(1);
+        closes();
     }
-
-    // ---- how a test is told
-
-    private static void due(String call, long got, long want) {
-        if (got == want) {
-            right++;
-        } else {
-            wrong++;
-            System.out.println("promise " + promise + ": " + call + " answered " + got + ", due is " + want);
-        }
-    }
-
-    private static void due(String call, boolean got, boolean want) {
-        due(call, got ? 1 : 0, want ? 1 : 0);
-    }
-
-    private static void feed(GloveHouses x, String text) {
-        for (int[] n : Texts.numbers(text)) x.feed(n[0], n[1], n[2], n[3], n[4]);
-    }
-
-    private static GloveHouses with(String peace, String... laws) {
-        GloveHouses x = new GloveHouses();
-        feed(x, peace);
-        if (x.text(0) == NONE) throw new IllegalStateException(peace);
-        for (String law : laws) {
-            feed(x, law);
-            x.law(x.text(1));
-        }
-        return x;
-    }
-
-    private static int fault(int sort, String text) {
-        GloveHouses x = new GloveHouses();
-        feed(x, text);
-        return x.fault(sort);
-    }
-
-    private static void faultDue(int sort, String text, int want) {
-        due("fault(" + sort + ") of '" + text + "'", fault(sort, text), want);
-    }
-
-    private static int glove(GloveHouses x, int glove, int what) {
-        try {
-            return x.glove(glove, what);
-        } catch (NoSuchElementException e) {
-            return HIDDEN;
-        }
-    }
-
-    private static void statusDue(GloveHouses x, int... want) {
-        for (int i = 0; i < want.length; i++) due("status(" + i + ")", x.status(i), want[i]);
-    }
-
-    // ---- the promises
 
     private static void newObject() {
-        promise = 1;
+        about = "promise 1";
         GloveHouses x = new GloveHouses();
         int[] want = {0, 0, 0, 0, NONE, 0, 0, 0, 1, 0, 0, 0, HIDDEN};
         for (int i = 0; i < want.length; i++) due("count(" + i + ")", x.count(i), want[i]);
@@ -112,7 +50,7 @@ public final class PromiseTest {
     }
 
     private static void feeding() {
-        promise = 2;
+        about = "promise 2";
         GloveHouses x = new GloveHouses();
         due("nothing", x.feed(0, 0, 0, 0, 0), 0);
         due("zeros left out", x.feed(0x67000000, 0x00003b00, 0x00670000, 0x00000068, 0x00310000), 5);
@@ -129,7 +67,7 @@ public final class PromiseTest {
     }
 
     private static void ending() {
-        promise = 3;
+        about = "promise 3";
         GloveHouses x = new GloveHouses();
         due("end(1) of nothing", x.end(1), false);
         due("end(0) of nothing", x.end(0), true);
@@ -146,7 +84,7 @@ public final class PromiseTest {
     }
 
     private static void peaceFaults() {
-        promise = 4;
+        about = "promise 4";
         due("fault(-1)", new GloveHouses().fault(-1), -2);
         due("fault(2)", new GloveHouses().fault(2), -2);
         String[] fine = {"g;gh1", "gh1;g", "g;gh1;s", "s;g;m;gh1;m", FOUR, " g ; g h 1 ", "g;gh01", "gf9s9a3h1;gf0s0a0h0",
@@ -205,7 +143,7 @@ public final class PromiseTest {
     }
 
     private static void lawFaults() {
-        promise = 4;
+        about = "promise 4";
         String[] fine = {"y:1", "y:9999", "y:0000", "y:f", "y : f + s * 2 ", "y:f=1?2", "y:f<1&s>2|!a=1?2", "y:(f=1)?2",
             "y:!(f=1|s=2)&[f+1]*2>3?[1]", "y:f=1?2;y:3", "y:1;y:2", "y:!!!!!!f=1?1", "y:[[[[[[1]]]]]]", "y:((((((f=1))))))?1",
             "y:!(!([[1]]=1))?[[[[[[1]]]]]]", "y:f-s/w*a+p-d", "y:((f=1)|(s=1))&!(w=1)?1"};
@@ -262,7 +200,7 @@ public final class PromiseTest {
     }
 
     private static void texts() {
-        promise = 5;
+        about = "promise 5";
         GloveHouses x = new GloveHouses();
         due("text(0) of nothing", x.text(0), NONE);
         feed(x, "g;gh1;q");
@@ -307,7 +245,7 @@ public final class PromiseTest {
 
     private static void rulesGlovesMatters() {
         GloveHouses x = with("gh1;g;m;mw0n0");
-        promise = 6;
+        about = "promise 6";
         due("usual pride", x.rule(0), 4);
         due("usual coins", x.rule(1), 20);
         due("rule(2)", x.rule(2), NONE);
@@ -315,7 +253,7 @@ public final class PromiseTest {
         x.swallow();
         due("pride now", x.rule(0), 3);
         due("coins now", x.rule(1), 16);
-        promise = 7;
+        about = "promise 7";
         int[] usual = {1, 4, 3, 0, 0, 1};
         for (int i = 0; i < 6; i++) due("glove(0, " + i + ")", glove(x, 0, i), usual[i]);
         due("glove(0, 6)", glove(x, 0, 6), HIDDEN);
@@ -330,7 +268,7 @@ public final class PromiseTest {
         GloveHouses y = with("gh0f9s8a3;ga2s1f0h1");
         int[] told = {0, 9, 8, 3, 0, 1, 1, 0, 1, 2, 0, 2};
         for (int i = 0; i < 12; i++) due("glove as told", glove(y, i / 6, i % 6), told[i]);
-        promise = 8;
+        about = "promise 8";
         due("usual weight", x.matter(0, 0), 3);
         due("usual need", x.matter(0, 1), 10);
         due("not signed", x.matter(0, 2), NONE);
@@ -344,7 +282,7 @@ public final class PromiseTest {
     }
 
     private static void warmthAndLaws() {
-        promise = 9;
+        about = "promise 9";
         GloveHouses x = with(FOUR);
         due("at first", x.warmth(0, 2), 0);
         x.meets(2, 0);
@@ -355,7 +293,7 @@ public final class PromiseTest {
         due("itself", x.warmth(0, 0), NONE);
         due("no such", x.warmth(0, 4), NONE);
         due("no such", x.warmth(-1, 2), NONE);
-        promise = 10;
+        about = "promise 10";
         GloveHouses y = with(FOUR);
         due("law(0) of none", y.law(0), false);
         due("law(NONE)", y.law(NONE), true);
@@ -379,7 +317,7 @@ public final class PromiseTest {
 
     /** FREE 12, STUFFED 4, WARMTH 0, not AFTER the same, PRIDE 3, DAY 0. */
     private static void worths() {
-        promise = 23;
+        about = "promise 23";
         worthDue("y:f/2", 6);
         worthDue("y:s", 4);
         worthDue("y:w+a+d", 0);
@@ -437,7 +375,7 @@ public final class PromiseTest {
     }
 
     private static void meeting() {
-        promise = 11;
+        about = "promise 11";
         GloveHouses x = new GloveHouses();
         due("no peace", x.meets(0, 1), NONE);
         statusDue(x, 1, 0, 0, 0, 0);
@@ -486,7 +424,7 @@ public final class PromiseTest {
     }
 
     private static void looseningAndStuffing() {
-        promise = 12;
+        about = "promise 12";
         due("no peace", new GloveHouses().loosen(0), NONE);
         GloveHouses x = with("sk8;gf8;gh1f9");
         due("no such", x.loosen(2), NONE);
@@ -505,7 +443,7 @@ public final class PromiseTest {
         x = with("sk3;gf1;gh1f9");
         due("just as many", x.loosen(0), 2);
         due("none left", x.rule(1), 0);
-        promise = 13;
+        about = "promise 13";
         due("no peace", new GloveHouses().stuff(0, 0), NONE);
         x = with("sk5;gs3;gh1s9");
         due("no such", x.stuff(2, 10), NONE);
@@ -524,7 +462,7 @@ public final class PromiseTest {
     }
 
     private static void swallowingTearingGiving() {
-        promise = 14;
+        about = "promise 14";
         due("no peace", new GloveHouses().swallow(), NONE);
         GloveHouses x = with("sp1k4;g;gh1");
         due("swallow()", x.swallow(), 0);
@@ -534,7 +472,7 @@ public final class PromiseTest {
         x = with("sp1k3;g;gh1");
         due("too few", x.swallow(), NONE);
         statusDue(x, 0, 0, 0, 1, 0);
-        promise = 15;
+        about = "promise 15";
         due("no peace", new GloveHouses().tear(0), NONE);
         x = with("sp8k9;g;gh1;mn0;mn0;m", "y:1");
         due("no such", x.tear(3), NONE);
@@ -550,7 +488,7 @@ public final class PromiseTest {
         due("nine at most", x.tear(1), 9);
         due("not signed", x.tear(1), NONE);
         statusDue(x, 2, 0, 2, 0, 0);
-        promise = 16;
+        about = "promise 16";
         due("no peace", new GloveHouses().give(1), NONE);
         x = with("sk99;g;gh1");
         due("give(0)", x.give(0), NONE);
@@ -569,7 +507,7 @@ public final class PromiseTest {
     }
 
     private static void daysAndSpite() {
-        promise = 17;
+        about = "promise 17";
         due("no peace", new GloveHouses().days(1), NONE);
         GloveHouses x = with(FOUR);
         due("days(0)", x.days(0), NONE);
@@ -599,7 +537,7 @@ public final class PromiseTest {
         due("the last", x.days(32), 999);
         due("beyond the last", x.days(1), NONE);
         due("coins", x.rule(1), 999);
-        promise = 18;
+        about = "promise 18";
         GloveHouses y = new GloveHouses();
         due("spite(1)", y.spite(1), false);
         due("spite(-1)", y.spite(-1), false);
@@ -612,7 +550,7 @@ public final class PromiseTest {
     }
 
     private static void yearsByDraws() {
-        promise = 19;
+        about = "promise 19";
         due("no peace", new GloveHouses().years(1, 0), NONE);
         GloveHouses x = with("sp0k9;g;gh1;mn1", "y:3");
         due("years(0)", x.years(0, 1), NONE);
@@ -683,7 +621,7 @@ public final class PromiseTest {
     }
 
     private static void statusAndUndo() {
-        promise = 20;
+        about = "promise 20";
         GloveHouses x = with(FOUR);
         due("status(-1)", x.status(-1), NONE);
         due("status(5)", x.status(5), NONE);
@@ -691,7 +629,7 @@ public final class PromiseTest {
         x.give(0);
         x.tear(0);
         statusDue(x, 1, 1, 1, 0, 0);
-        promise = 21;
+        about = "promise 21";
         due("undo()", x.undo(), NONE);
         x.meets(0, 2);
         x.loosen(1);
@@ -735,7 +673,7 @@ public final class PromiseTest {
     }
 
     private static void logs() {
-        promise = 22;
+        about = "promise 22";
         GloveHouses x = with("sk9;g;g;gh1;mn2;mn2", "y:5-d");
         due("none yet", x.log(0, 0), NONE);
         x.meets(0, 2);
@@ -776,7 +714,7 @@ public final class PromiseTest {
     }
 
     private static void risesAndLater() {
-        promise = 23;
+        about = "promise 23";
         GloveHouses x = with(FOUR);
         due("rises(0, 2)", x.rises(0, 2), 8);
         due("rises(0, 3)", x.rises(0, 3), 4);
@@ -793,7 +731,7 @@ public final class PromiseTest {
         due("as it is now", x.rises(1, 3), 4 + 2 - 0 - 2);
         x.meets(0, 2);
         due("whoever met", x.rises(0, 2), 9);
-        promise = 24;
+        about = "promise 24";
         x = with(FOUR);
         due("later(0, 3, 0)", x.later(0, 3, 0), 0);
         due("later(0, 3, 1)", x.later(0, 3, 1), 4);
@@ -818,7 +756,7 @@ public final class PromiseTest {
     }
 
     private static void soonest() {
-        promise = 25;
+        about = "promise 25";
         GloveHouses x = with(FOUR + ";mn0;mn60;mn9");
         due("need 6", x.soonest(0, 0), 2);
         due("need 6", x.soonest(0, 1), 1);
@@ -845,7 +783,7 @@ public final class PromiseTest {
     }
 
     private static void matches() {
-        promise = 26;
+        about = "promise 26";
         due("no peace", new GloveHouses().pairs(0), HIDDEN);
         GloveHouses x = with(FOUR);
         due("pairs(-1)", x.pairs(-1), HIDDEN);
@@ -876,7 +814,7 @@ public final class PromiseTest {
     }
 
     private static void allKnow() {
-        promise = 27;
+        about = "promise 27";
         due("no peace", new GloveHouses().allKnow(), NONE);
         GloveHouses x = with("g;gh1", "y:1");
         due("one day", x.allKnow(), 1);
@@ -907,7 +845,7 @@ public final class PromiseTest {
     }
 
     private static void seenFitsAsk() {
-        promise = 28;
+        about = "promise 28";
         due("no peace", new GloveHouses().seen(0, 1, 0, true), NONE);
         GloveHouses x = with(FOUR);
         due("of one house", x.seen(0, 1, 0, true), NONE);
@@ -919,7 +857,7 @@ public final class PromiseTest {
         for (int i = 2; i <= 10; i++) due("seen", x.seen(3, 1, 9, false), i);
         due("there are ten", x.seen(0, 2, 0, true), NONE);
         due("ten", x.count(9), 10);
-        promise = 29;
+        about = "promise 29";
         x = with(FOUR);
         due("all fit", x.fits(0, NONE), 10);
         due("the first", x.fits(0, 0), 0);
@@ -945,7 +883,7 @@ public final class PromiseTest {
         x.swallow();
         x.days(5);
         due("all as told", x.fits(0, NONE), 4);
-        promise = 30;
+        about = "promise 30";
         due("no such", x.ask(4, 0), NONE);
         due("no such", x.ask(-1, 0), NONE);
         due("v 10", x.ask(0, 10), NONE);
@@ -971,7 +909,7 @@ public final class PromiseTest {
     }
 
     private static void games() {
-        promise = 31;
+        about = "promise 31";
         due("no peace", new GloveHouses().game(0, 0, 0), HIDDEN);
         GloveHouses x = with(FOUR);
         int[] first = {8 - 2, 4 - 2, 1, 1};
@@ -989,14 +927,14 @@ public final class PromiseTest {
         int[][] out = {{5, 0, 0}, {-1, 0, 0}, {0, 5, 0}, {0, -1, 0}, {0, 0, 2}, {0, 0, -1}};
         for (int[] o : out) due("out of bounds", x.game(o[0], o[1], o[2]), HIDDEN);
         due("by how many are lower", with("gh1;gh1f9s0;gf9;gf1").game(1, 1, 0), (9 + 1) / 2 + 2 - 1 - 0 - 0);
-        promise = 32;
+        about = "promise 32";
         due("no peace", new GloveHouses().sure(0), HIDDEN);
         due("sure(2)", x.sure(2), HIDDEN);
         due("sure(-1)", x.sure(-1), HIDDEN);
         due("of house 0", x.sure(0), 2);
         due("of house 1", x.sure(1), 0);
         due("all below", with("gf9;gh1f9", "y:0-9").sure(1), -12);
-        promise = 33;
+        about = "promise 33";
         due("no peace", new GloveHouses().rests(NONE), NONE);
         due("how many", x.rests(NONE), 1);
         due("the first", x.rests(0), 0);
@@ -1016,7 +954,7 @@ public final class PromiseTest {
     }
 
     private static void odds() {
-        promise = 34;
+        about = "promise 34";
         due("no peace", new GloveHouses().odds(0, 0, 1, 1, 0), NONE);
         GloveHouses x = with(FOUR + ";mn0;mn4;mn12");
         due("no such matter", x.odds(5, 0, 2, 1, 0), NONE);
@@ -1062,7 +1000,7 @@ public final class PromiseTest {
     }
 
     private static void sharesAndMost() {
-        promise = 35;
+        about = "promise 35";
         due("no peace", new GloveHouses().shares(0, 1), NONE);
         GloveHouses x = with(FOUR);
         due("shares(0, 10)", x.shares(0, 10), 5);
@@ -1075,7 +1013,7 @@ public final class PromiseTest {
         x.loosen(0);
         due("as it is now", x.shares(0, 100), 52);
         due("none is", with("gf0;gh1f0").shares(0, 99), 0);
-        promise = 36;
+        about = "promise 36";
         due("no peace", new GloveHouses().most(0), NONE);
         x = with(FOUR + ";mw5n0");
         due("most(9)", x.most(9), NONE);
@@ -1124,7 +1062,7 @@ public final class PromiseTest {
         x.meets(2, 5);
         due("warmest", x.most(2), 25);
         due("coldest", x.most(3), 3);
-        promise = 37;
+        about = "promise 37";
         x = with("ga1;ga0;gh1a1;gh1;gh1a1;ga1");
         due("allies(0)", x.allies(0), 20);
         due("allies(1)", x.allies(1), 8);
@@ -1145,20 +1083,20 @@ public final class PromiseTest {
     }
 
     private static void images() {
-        promise = 38;
+        about = "promise 38";
         due("no peace", new GloveHouses().image(), NONE);
         GloveHouses x = with(FOUR);
-        promise = 39;
+        about = "promise 39";
         due("no image", x.back(), NONE);
         x.days(4);
         x.meets(0, 2);
         x.loosen(1);
         x.stuff(3, 1);
         x.swallow();
-        promise = 38;
+        about = "promise 38";
         due("the day", x.image(), 4);
         due("no act", x.count(11), 8);
-        promise = 39;
+        about = "promise 39";
         for (int i = 0; i < 7; i++) x.undo();
         x.meets(1, 2);
         x.spite(5);
@@ -1216,7 +1154,7 @@ public final class PromiseTest {
     }
 
     private static void counts() {
-        promise = 40;
+        about = "promise 40";
         GloveHouses x = with(FOUR, "y:1", "y:2");
         feed(x, "abc");
         x.law(0);
