@@ -37,6 +37,7 @@ public final class ActEdgesTest extends Check {
         logBounds();
         logOfDays();
         readers();
+        manyCalls();
         closes();
     }
 
@@ -307,7 +308,14 @@ public final class ActEdgesTest extends Check {
         x.days(1);
         x.meets(1, 3);
         due("by others, once torn up", x.matter(3, 2), 13);
-        due("with no MATTER", with("g;gh1", "y:1").meets(0, 1), 1);
+        says("is SIGNED: none that is not there");
+        for (int matters = 0; matters <= 5; matters++) {
+            GloveHouses y = with("g;gh1" + ";mn60".repeat(matters), "y:1");
+            due("with " + matters + " MATTERS", y.meets(0, 1), 1);
+            due("SIGNED", y.most(1), 0);
+            y.days(1);
+            due("SIGNED that DAY", y.log(0, 1), 0);
+        }
     }
 
     // ---- a DAY
@@ -901,5 +909,26 @@ public final class ActEdgesTest extends Check {
         high.meets(0, 5);
         due("matter(0, 2)", high.matter(0, 2), 34);
         due("matter(1, 2)", high.matter(1, 2), 5);
+    }
+
+    private static void manyCalls() {
+        says("An object is used for at most 512 calls after it has been made");
+        GloveHouses x = new GloveHouses();
+        for (int i = 0; i < 511; i++) x.days(1);
+        due("the 512th call: how many ACTS were refused", x.status(0), 511);
+        GloveHouses y = new GloveHouses();
+        y.feed(0x673b6768, 0x31000000, 0, 0, 0);
+        y.text(0);
+        for (int i = 0; i < 254; i++) {
+            y.give(1);
+            y.undo();
+        }
+        y.give(7);
+        due("the 512th call: COINS", y.rule(1), 27);
+        GloveHouses z = new GloveHouses();
+        for (int i = 0; i < 240; i++) z.feed(0, 0, ' ', 0, 0);
+        for (int i = 0; i < 270; i++) z.fault(i % 2);
+        due("the 511th call: the FAULT", z.fault(1), 240);
+        due("the 512th call: the FAULT", z.fault(0), 240);
     }
 }

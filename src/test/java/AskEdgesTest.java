@@ -38,9 +38,11 @@ public final class AskEdgesTest extends Check {
         oddsHalf();
         oddsCut();
         oddsDays();
+        oddsOfTheTwo();
         shares();
         mostBounds();
         warmestColdest();
+        warmestOfDrawn();
         freestStiffestHeaviest();
         boundAndDue();
         allies();
@@ -157,6 +159,12 @@ public final class AskEdgesTest extends Check {
         due("in how many", with("gf0;gf1;gh1f0;gh1f1;mn2", "y:f").soonest(0, 1), 1);
         due("two alike, then sooner ones", with("gf1;gf2;gh1f1;gh1f1;gh1f2;mn4", "y:f").soonest(0, 0), 14);
         due("two alike behind others", with("gf0;gf3;gh1f0;gh1f3;gh1f3;mn6", "y:f").soonest(0, 0), 13);
+        GloveHouses first = with("gf5;gf1;gh1f1;gh1f0;mn6", "y:f");
+        due("the first, and slower ones", first.soonest(0, 0), 2);
+        due("in how many", first.soonest(0, 1), 1);
+        GloveHouses amid = with("gf0;gf9;gf1;gh1f1;gh1f0;mn9", "y:f");
+        due("one amid slower ones", amid.soonest(0, 0), 13);
+        due("in how many", amid.soonest(0, 1), 1);
         GloveHouses x = with(SIX + ";mn5;mn0", "y:4");
         x.meets(2, 5);
         due("who is warmer", x.soonest(0, 0), 25);
@@ -276,6 +284,10 @@ public final class AskEdgesTest extends Check {
         due("by 1", met.allKnow(), 1);
         /* Two of each: 0-2 and 1-3, then 0-3 and 1-2: all of the row each DAY. */
         due("two of each", with("g;g;gh1;gh1", "y:9-w").allKnow(), 2);
+        /* 345, 453, 534: each KNOWS two, then four, then all. */
+        due("three of each", with(SIX, "y:9-w").allKnow(), 3);
+        /* 0 and 2, 1 and 2 (these KNOW all then), 0 and 2: it's GLOVE 0 that's the last. */
+        due("the lowest is the last", with("g;g;gh1", "y:9-w").allKnow(), 3);
         due("with what is SIGNED", with("g;g;gh1;gh1;mn0;mn0;mn9", "y:9-w").allKnow(), 2);
         due("without COINS", with("sk0;g;g;gh1;gh1", "y:9-w").allKnow(), 2);
         due("the same two each DAY", with("g;g;gh1;gh1", "y:1+w").allKnow(), NONE);
@@ -423,6 +435,16 @@ public final class AskEdgesTest extends Check {
         y.seen(0, 2, 9, false);
         due("nothing fits", y.ask(0, 9), NONE);
         due("of another one does", y.ask(1, 9), 0);
+        GloveHouses none = with("gf0;gh1f0;gh1f9", "y:f");
+        none.seen(0, 1, 1, false);
+        due("just 0 fits", none.fits(0, NONE), 1);
+        due("it is one", none.ask(0, 1), 1);
+        none.seen(0, 1, 0, false);
+        due("not even 0 fits", none.ask(0, 1), NONE);
+        GloveHouses two = with("gf0;gh1f9;gh1f0", "y:f");
+        two.seen(0, 2, 2, false);
+        due("0 and 1 fit", two.fits(0, NONE), 2);
+        due("both with 1, one of them with 2", two.ask(0, 1), 2);
     }
 
     private static void askOfSeveral() {
@@ -559,7 +581,22 @@ public final class AskEdgesTest extends Check {
         GloveHouses crossed = with("ga1f0;ga2f0;gh1a2f0;gh1a1f0", "y:a");
         due("the first", crossed.rests(0), 1);
         due("the second", crossed.rests(1), 10);
+        GloveHouses others = with("gf0;gh1f0;gh1f0;gh1f0;gh1f0;gh1f0", "y:1");
+        due("five", others.rests(NONE), 5);
+        due("the last", others.rests(4), 4);
         says("less how FREE its own is: who costs less");
+        for (int best = 0; best < 4; best++) {
+            StringBuilder gloves = new StringBuilder("gh1f0");
+            for (int i = 0; i < 4; i++) gloves.append(i == best ? ";gf2" : ";gf3");
+            GloveHouses x = with(gloves.toString(), "y:0");
+            due("just one", x.rests(NONE), 1);
+            due("the " + best + ".", x.rests(0), 10 * best);
+            GloveHouses y = with(gloves.toString().replace("gf", "gh1f").replace("gh1f0", "gf0"), "y:0");
+            due("just one", y.rests(NONE), 1);
+            due("the " + best + ".", y.rests(0), best);
+        }
+        due("the lowest of HOUSE 0", with("gf2;gf3;gh1f0", "y:0").rests(NONE), 1);
+        due("the lowest of HOUSE 1", with("gh1f2;gh1f3;gf0", "y:0").rests(NONE), 1);
         GloveHouses cost = with("gf3;gf2;gh1f5;gh1f6", "y:0");
         due("one", cost.rests(NONE), 1);
         due("2 and 5", cost.rests(0), 10);
@@ -682,6 +719,46 @@ public final class AskEdgesTest extends Check {
         due("1 and 2 are 3", y.odds(0, 0, 1, 2, 50), PARTS / 2 + PARTS / 4);
     }
 
+    private static void oddsOfTheTwo() {
+        oddsAmong("000111");
+        oddsAmong("010101");
+        oddsAmong("110010");
+    }
+
+    /** Six GLOVES of these HOUSES, how FREE each is another; then one WARMTH after the other between two alone. */
+    private static void oddsAmong(String houses) {
+        says("ODDS of a MATTER for two");
+        StringBuilder told = new StringBuilder("sk9");
+        StringBuilder alike = new StringBuilder("sk9");
+        for (int g = 0; g < 6; g++) {
+            told.append(";gh").append(houses.charAt(g)).append("f").append(g);
+            alike.append(";gh").append(houses.charAt(g));
+        }
+        GloveHouses x = with(told + ";mn1;mn2;mn4;mn6;mn8", "y:f");
+        int[] needs = {1, 2, 4, 6, 8};
+        for (int two = 0; two < 36; two++) {
+            int one = two / 6;
+            int other = two % 6;
+            if (houses.charAt(one) == houses.charAt(other)) continue;
+            for (int m = 0; m < 5; m++) {
+                due("one meeting of " + one + " and " + other + " for " + needs[m], x.odds(m, one, other, 1, 0),
+                    one + other >= needs[m] ? PARTS : 0);
+            }
+            int law = 2 + (5 * one + other) % 8;
+            GloveHouses y = with(alike + ";mn" + law / 2 + ";mn" + (law / 2 + 1), "y:" + law);
+            y.meets(one, other);
+            due("half of what is between " + one + " and " + other, y.odds(0, one, other, 1, 100), PARTS);
+            due("half of what is between " + other + " and " + one, y.odds(0, other, one, 1, 100), PARTS);
+            due("no more of it", y.odds(1, one, other, 1, 100), 0);
+            for (int else2 = 0; else2 < 36; else2++) {
+                int p = else2 / 6;
+                int q = else2 % 6;
+                boolean same = p == one && q == other || p == other && q == one;
+                if (!same && houses.charAt(p) != houses.charAt(q)) due("of others", y.odds(0, p, q, 1, 100), 0);
+            }
+        }
+    }
+
     // ---- SHARES, most, ALLIES
 
     private static void shares() {
@@ -773,6 +850,38 @@ public final class AskEdgesTest extends Check {
         due("the only two", one.most(3), 1);
         one.meets(0, 1);
         due("the only two", one.most(3), 1);
+    }
+
+    /** WARMEST, COLDEST and DUE by WARMTH between each two, for drawn meetings among drawn HOUSES. */
+    private static void warmestOfDrawn() {
+        says("WARMEST .. COLDEST .. DUE by WARMTH between each two");
+        java.util.Random random = new java.util.Random(36);
+        for (int run = 0; run < 200; run++) {
+            int houses = 1 + random.nextInt(62);
+            int most = 1 + random.nextInt(9);
+            StringBuilder peace = new StringBuilder("sk99");
+            for (int g = 0; g < 6; g++) peace.append(";gh").append(houses >> g & 1).append("f").append(random.nextInt(10));
+            for (int m = 0; m < 5; m++) peace.append(";mn").append(random.nextInt(2 * most + 1));
+            GloveHouses x = with(peace.toString(), "y:" + most + "-f/3");
+            for (int i = 0; i < 25; i++) {
+                x.meets(random.nextInt(6), random.nextInt(6));
+                if (random.nextInt(3) == 0) x.days(1);
+                if (random.nextInt(3) == 0) x.tear(random.nextInt(5));
+            }
+            int warmest = NONE;
+            int coldest = NONE;
+            int due = 0;
+            for (int two = 0; two < 60; two++) {
+                int warmth = two / 10 < two % 10 ? x.warmth(two / 10, two % 10) : NONE;
+                if (warmth == NONE) continue;
+                if (warmest == NONE || warmth > x.warmth(warmest / 10, warmest % 10)) warmest = two;
+                if (coldest == NONE || warmth < x.warmth(coldest / 10, coldest % 10)) coldest = two;
+                for (int m = 0; m < 5; m++) if (x.matter(m, 2) == NONE && warmth >= x.matter(m, 1)) due |= 1 << m;
+            }
+            due("WARMEST of run " + run, x.most(2), warmest);
+            due("COLDEST of run " + run, x.most(3), coldest);
+            due("DUE of run " + run, x.most(8), due);
+        }
     }
 
     private static void freestStiffestHeaviest() {

@@ -276,17 +276,7 @@ public final class RefusedTest extends Check {
     }
 
     private static void withoutPeace() {
-        in("LAWS, a TAPE and SPITE, but no PEACE", () -> {
-            GloveHouses x = new GloveHouses();
-            feed(x, "y:1");
-            x.text(1);
-            feed(x, "y:d+2");
-            x.law(x.text(1));
-            x.spite(7);
-            feed(x, "g;gh1;q");
-            x.give(1);
-            return x;
-        });
+        in("LAWS, a TAPE and SPITE, but no PEACE", States::withoutPeace);
         noPeace();
         asked();
         refused("text(0)", NO_STATUS, NONE, x -> x.text(0));
@@ -295,10 +285,8 @@ public final class RefusedTest extends Check {
         refused("end(8)", NO_STATUS, 0, x -> bit(x.end(8)));
     }
 
-    private static final String SIX = "sp5k40;gf3a1;gf9s0a1;gs9;gh1a1;gh1s1;gh1f8;mn2;mn3;mn1w9;mn60;mn0";
-
     private static void fresh() {
-        in("a PEACE as told", () -> with(SIX));
+        in("a PEACE as told", States::fresh);
         always();
         withPeace();
         asked();
@@ -312,25 +300,7 @@ public final class RefusedTest extends Check {
     }
 
     private static void busy() {
-        in("a PEACE in its DAYS", () -> {
-            GloveHouses x = with(SIX, "y:f/3-w/4+1", "y:5-w");
-            x.spite(3);
-            x.meets(0, 3);
-            x.seen(0, 3, 2, true);
-            x.seen(4, 1, 3, false);
-            x.days(2);
-            x.meets(1, 4);
-            x.image();
-            x.tear(0);
-            x.meets(2, 3);
-            x.days(1);
-            x.loosen(0);
-            x.meets(0, 5);
-            x.stuff(3, 7);
-            feed(x, "y:7;y");
-            x.meets(0, 5);
-            return x;
-        });
+        in("a PEACE in its DAYS", States::busy);
         always();
         withPeace();
         asked();
@@ -345,12 +315,7 @@ public final class RefusedTest extends Check {
     }
 
     private static void poor() {
-        in("no COINS and no PRIDE", () -> {
-            GloveHouses x = with("sp1k5;gf9;g;g;gh1;gh1;gh1;mn0;mn60", "y:1");
-            x.swallow();
-            x.meets(0, 3);
-            return x;
-        });
+        in("no COINS and no PRIDE", States::poor);
         always();
         withPeace();
         asked();
@@ -370,35 +335,14 @@ public final class RefusedTest extends Check {
     }
 
     private static void nothingToUndo() {
-        in("all that can be UNDONE is", () -> {
-            GloveHouses x = with(SIX, "y:2");
-            for (int i = 0; i < 13; i++) {
-                x.meets(i % 3, 3 + i % 2);
-                x.days(4);
-            }
-            for (int i = 0; i < 40; i++) x.undo();
-            return x;
-        });
+        in("all that can be UNDONE is", States::undone);
         refused("undo()", NO_STATUS, NONE, x -> x.undo());
         refused("back()", NO_STATUS, NONE, x -> x.back());
         asked();
     }
 
     private static void full() {
-        in("all is full, on the last DAY", () -> {
-            GloveHouses x = with("sp9k99;gf9s9;gf9;gf9;gh1f9;gh1f9;gh1f9;mn0;mn0;mn0;mn0;mn0", "y:1", "y:2", "y:3", "y:4");
-            for (int i = 0; i < 10; i++) x.seen(i % 3, 3 + i % 2, 3, i % 2 == 0);
-            pass(x, 990);
-            meetDaily(x, 0, 3, 9);
-            x.image();
-            x.give(9);
-            x.meets(0, 3);
-            x.meets(1, 4);
-            x.meets(2, 5);
-            x.give(3);
-            for (int i = 0; i < 12; i++) x.feed(-1, 0x3b3b3b3b, -1, -1, -1);
-            return x;
-        });
+        in("all is full, on the last DAY", States::full);
         due("COINS", made.get().rule(1), 999);
         due("the DAY", made.get().count(5), 999);
         always();
@@ -416,7 +360,7 @@ public final class RefusedTest extends Check {
         refused("beyond the last DAY", NO_STATUS, NONE, x -> x.years(1, 1));
         refused("an eleventh SEEN", NO_STATUS, NONE, x -> x.seen(0, 3, 0, true));
         in("two DAYS ahead of the last", () -> {
-            GloveHouses x = with(SIX, "y:1");
+            GloveHouses x = with(States.SIX, "y:1");
             pass(x, 997);
             x.meets(0, 3);
             return x;
@@ -427,7 +371,7 @@ public final class RefusedTest extends Check {
 
     private static void fourLaws() {
         in("four LAWS and a fifth on the TAPE", () -> {
-            GloveHouses x = with(SIX, "y:1", "y:2", "y:3", "y:4");
+            GloveHouses x = with(States.SIX, "y:1", "y:2", "y:3", "y:4");
             feed(x, "y:5");
             return x;
         });
@@ -450,7 +394,7 @@ public final class RefusedTest extends Check {
     }
 
     private static GloveHouses busyWith(String tape) {
-        GloveHouses x = with(SIX, "y:2");
+        GloveHouses x = with(States.SIX, "y:2");
         x.meets(0, 3);
         x.seen(0, 3, 1, true);
         x.image();

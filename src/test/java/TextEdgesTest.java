@@ -548,6 +548,21 @@ public final class TextEdgesTest extends Check {
         due("a FAULT at the end", x.text(0), NONE);
         x.end(7);
         due("without it", x.text(0), 3);
+        says("The FAULT of the TAPE: of what is on it now, whatever was read ahead of it");
+        GloveHouses z = new GloveHouses();
+        feed(z, "sp9k9;gf9s9a3h1;mw9n9;m;m;m;m;m");
+        due("a sixth m", z.fault(0), 30);
+        due("again", z.fault(0), 30);
+        z.end(0);
+        feed(z, "s;g;gh1;m;m;m;m;m");
+        due("one s, two g, five m", z.fault(0), NONE);
+        due("again", z.fault(0), NONE);
+        due("text(0)", z.text(0), 2);
+        due("PRIDE", z.rule(0), 4);
+        due("WEIGHT", z.matter(0, 0), 3);
+        feed(z, "s;gh1;g");
+        due("another with an s", z.text(0), 2);
+        due("MATTERS", z.count(1), 0);
         GloveHouses y = new GloveHouses();
         feed(y, "y:1");
         due("a LAW without a PEACE", y.text(1), 0);
@@ -702,6 +717,14 @@ public final class TextEdgesTest extends Check {
         holdsDue("f>12", false);
         holdsDue("f>11", true);
         holdsDue("f>13", false);
+        for (int k = 11; k <= 13; k++) {
+            holdsDue("!f=" + k, 12 != k);
+            holdsDue("!f<" + k, 12 >= k);
+            holdsDue("!f>" + k, 12 <= k);
+            holdsDue("!!f<" + k, 12 < k);
+            holdsDue("!!f>" + k, 12 > k);
+            holdsDue("!(!f<" + k + "|!f>" + (k - 2) + ")", 12 < k);
+        }
         says("CONDITION: TRUTHS with | between; TRUTH: UNITS with & between; UNIT: ! UNIT, ( CONDITION )");
         String[] units = {"1=0", "1=1"};
         for (int i = 0; i < 8; i++) {
