@@ -96,10 +96,10 @@ public final class GloveHouses {
     }
 
     public int text(int sort) {
-        if (sort == 0) {
+        if (sort == 0 && peaceReader.readsAll()) {
             return takePeace();
         }
-        return sort == 1 ? takeLaw() : NONE;
+        return sort == 1 && !laws.isFull() && lawReader.readsAll() ? takeLaw() : NONE;
     }
 
     public int rule(int what) {
@@ -577,9 +577,6 @@ public final class GloveHouses {
     }
 
     private int takePeace() {
-        if (!peaceReader.readsAll()) {
-            return NONE;
-        }
         tape.length = 0;
         told.copyFrom(peaceReader.read);
         now.begin();
@@ -590,9 +587,6 @@ public final class GloveHouses {
     }
 
     private int takeLaw() {
-        if (laws.isFull() || !lawReader.readsAll()) {
-            return NONE;
-        }
         tape.length = 0;
         laws.add(lawReader.code, lawReader.size);
         return laws.size - 1;
