@@ -17,9 +17,9 @@ import java.util.function.Supplier;
 public final class RoomTest extends Check {
     private static final int MOST_OBJECTS = 100;
     private static final int MOST_ELEMENTS = 7000;
-    private static final int ROUNDS = 200;
-    /** What Java itself may need meanwhile; one small object a call would be some 150,000 bytes at least. */
-    private static final long SLACK = 20000;
+    private static final int ROUNDS = 1500;
+    /** What Java itself may need meanwhile; one object a round would be 24,000 bytes at least. */
+    private static final long SLACK = 8000;
 
     public static void main(String[] args) throws IllegalAccessException {
         about = "one room";
